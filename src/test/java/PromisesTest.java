@@ -107,6 +107,9 @@ public final class PromisesTest {
     write(x, "2,***,0-15,1;");
     due(3, "lay() of what came behind it", x.lay(), 1);
     due(3, "rule(0, 0)", x.rule(0, 0), 2);
+    x.wipe();
+    write(x, "3,***,0-15,1");
+    due(3, "fault(): what was wiped is not read", x.fault(), 0);
   }
 
   private static void faultOf(String text, int want) {
@@ -134,6 +137,7 @@ public final class PromisesTest {
     for (int i = 10; i < 16; i++) sixteen.append(i).append(",***,0-0,0;");
     faultOf(sixteen.toString(), NONE);
     faultOf(sixteen + "9", 198);
+    faultOf(sixteen + "99", 198);
   }
 
   private static void lay() {
