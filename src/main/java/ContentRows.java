@@ -363,7 +363,11 @@ public final class ContentRows {
     /** Lets the waiting ROW come in behind the first such MOVES, just so many; else all is as it was. */
     private static boolean comesInBy(Table table, MoveLog log, int moves) {
         if (moves <= 0) {
-            return takesLowestOpen(table);
+            int s = table.lowestOpen(WAITING);
+            if (s >= 0) {
+                table.shift(WAITING, s);
+            }
+            return s >= 0;
         }
         int low = 0;
         int high = SLOTS - 1;
@@ -399,15 +403,6 @@ public final class ContentRows {
         return false;
     }
 
-    private static boolean takesLowestOpen(Table table) {
-        int s = table.lowestOpen(WAITING);
-        if (s < 0) {
-            return false;
-        }
-        table.shift(WAITING, s);
-        return true;
-    }
-
     /** Whether each KEY has the same ANSWER with the ROW of one SLOT without a sign and the other empty. */
     private boolean isSameJoined(int kept, int emptied, int sign) {
         trial.copyFrom(board);
@@ -434,7 +429,7 @@ public final class ContentRows {
 
     private static int rowsOfSpan(int from, int to) {
         int rows = 0;
-        for (int tail = from; tail <= to; tail += pieceSize(tail, to)) {
+        for (int tail = from; tail <= to && rows < ROWS_A_RULE; tail += pieceSize(tail, to)) {
             rows++;
         }
         return rows;
@@ -549,6 +544,9 @@ public final class ContentRows {
         int size = 0;
         final int[] ranks = new int[RULES];
         final int[] heads = new int[RULES];
+        /** The bits of the HEAD that are not any, and those that are 1. */
+        final int[] headCares = new int[RULES];
+        final int[] headValues = new int[RULES];
         final int[] firsts = new int[RULES];
         final int[] lasts = new int[RULES];
         final int[] answers = new int[RULES];
@@ -557,6 +555,8 @@ public final class ContentRows {
             size = other.size;
             System.arraycopy(other.ranks, 0, ranks, 0, RULES);
             System.arraycopy(other.heads, 0, heads, 0, RULES);
+            System.arraycopy(other.headCares, 0, headCares, 0, RULES);
+            System.arraycopy(other.headValues, 0, headValues, 0, RULES);
             System.arraycopy(other.firsts, 0, firsts, 0, RULES);
             System.arraycopy(other.lasts, 0, lasts, 0, RULES);
             System.arraycopy(other.answers, 0, answers, 0, RULES);
@@ -568,6 +568,8 @@ public final class ContentRows {
             }
             ranks[size] = rank;
             heads[size] = head;
+            headCares[size] = headBits(head, 0) + headBits(head, 1);
+            headValues[size] = headBits(head, 1);
             firsts[size] = first;
             lasts[size] = last;
             answers[size] = answer;
@@ -581,6 +583,8 @@ public final class ContentRows {
             for (int i = r; i + 1 < size; i++) {
                 ranks[i] = ranks[i + 1];
                 heads[i] = heads[i + 1];
+                headCares[i] = headCares[i + 1];
+                headValues[i] = headValues[i + 1];
                 firsts[i] = firsts[i + 1];
                 lasts[i] = lasts[i + 1];
                 answers[i] = answers[i + 1];
@@ -603,21 +607,11 @@ public final class ContentRows {
             return r >= 0 && r < size ? answers[r] : NONE;
         }
 
-        /** The bits of the HEAD that are not any. */
-        int headCare(int r) {
-            return (careOf(heads[r] / 100) << 2) | (careOf(heads[r] / 10 % 10) << 1) | careOf(heads[r] % 10);
-        }
-
-        private static int careOf(int sign) {
-            return sign == ANY ? 0 : 1;
-        }
-
-        int headValue(int r) {
-            return (valueOf(heads[r] / 100) << 2) | (valueOf(heads[r] / 10 % 10) << 1) | valueOf(heads[r] % 10);
-        }
-
-        private static int valueOf(int sign) {
-            return sign == 1 ? 1 : 0;
+        /** The bits of a HEAD with a sign. */
+        private static int headBits(int head, int sign) {
+            int high = head / 100 == sign ? 4 : 0;
+            int middle = head / 10 % 10 == sign ? 2 : 0;
+            return high + middle + (head % 10 == sign ? 1 : 0);
         }
 
         boolean has(int r, int k) {
@@ -625,7 +619,7 @@ public final class ContentRows {
             if (tail < firsts[r] || tail > lasts[r]) {
                 return false;
             }
-            return ((k / TAILS ^ headValue(r)) & headCare(r)) == 0;
+            return ((k / TAILS ^ headValues[r]) & headCares[r]) == 0;
         }
 
         /** The RULE by which THE LIST ANSWERS a KEY, or NONE. */
@@ -979,8 +973,8 @@ public final class ContentRows {
         /** Puts the ROW of a RULE whose piece begins with a TAIL into a place. */
         void putRow(int place, int r, int piece, int tail) {
             int tailCare = TAILS - pieceSize(tail, rules.lasts[r]);
-            int care = rules.headCare(r) * TAILS + tailCare;
-            table.put(place, rules.ranks[r], piece, care, rules.headValue(r) * TAILS + tail);
+            int care = rules.headCares[r] * TAILS + tailCare;
+            table.put(place, rules.ranks[r], piece, care, rules.headValues[r] * TAILS + tail);
         }
 
         void packRows() {
